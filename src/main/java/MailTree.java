@@ -285,7 +285,8 @@ public final class MailTree {
             if (place < end && at(place) == LF) {
                 return 1;
             }
-            return has(LINE_END, place, end) ? 2 : 0;
+            boolean withCr = place + 1 < end && at(place) == CR && at(place + 1) == LF;
+            return withCr ? 2 : 0;
         }
     }
 
@@ -514,8 +515,8 @@ public final class MailTree {
             entity.body = readFields(entity);
             trimValues(entity);
             readEncoding(entity);
-            if (depth < DEEPEST) {
-                readKind(entity);
+            if (depth < DEEPEST && readKind(entity)) {
+                readBoundary(entity);
             }
             if (entity.kind == LEAF) {
                 decoder.decode(entity);
@@ -622,33 +623,32 @@ public final class MailTree {
             }
         }
 
-        private void readKind(Entity entity) {
+        /** Answers whether a boundary would make it a multipart; the scanner then stands before the parameters. */
+        private boolean readKind(Entity entity) {
             Field field = fieldNamed(entity, "content-type");
             if (field == null) {
-                return;
+                return false;
             }
             scanner.start(field);
             scanner.skipSpace();
             if (!scanner.takeAtom()) {
-                return;
+                return false;
             }
-            boolean multipart = scanner.wordIs("multipart");
-            boolean message = scanner.wordIs("message");
+            boolean isMultipart = scanner.wordIs("multipart");
+            boolean isMessage = scanner.wordIs("message");
             scanner.skipSpace();
             if (!scanner.take('/')) {
-                return;
+                return false;
             }
             scanner.skipSpace();
             if (!scanner.takeAtom()) {
-                return;
+                return false;
             }
-            if (message && scanner.wordIs("rfc822")) {
+            if (isMessage && scanner.wordIs("rfc822")) {
                 entity.kind = ENCLOSING;
             }
             scanner.skipSpace();
-            if (multipart) {
-                readBoundary(entity);
-            }
+            return isMultipart;
         }
 
         /** Only the first parameter boundary counts, even if it can't be one and a later one could. */

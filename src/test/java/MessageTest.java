@@ -12,6 +12,7 @@ final class MessageTest {
         feedKeepsToItsRoom();
         clearLeavesWhatWasRead();
         readingIsAskedForAnew();
+        readingManyTimes();
         CHECKS.end();
     }
 
@@ -100,5 +101,17 @@ final class MessageTest {
         CHECKS.same("no boundary is left over", x.boundary(0, 0), -1);
         CHECKS.same("no field is left over", x.look(0, Mail.FIELDS), 0);
         CHECKS.noElement("no part is left over", () -> x.look(1, 0));
+    }
+
+    /** A long message, so that what one read leaves behind would take the next one's room. */
+    private static void readingManyTimes() {
+        String head = "Content-Type: multipart/x; boundary=12345678901234567890";
+        MailTree x = Mail.fed(head + "\n\n--12345678901234567890\n\n" + "x".repeat(150));
+        for (int i = 0; i < 400; i++) {
+            CHECKS.same("read " + i, x.read(), 2);
+        }
+        CHECKS.same("boundary after many reads", Mail.boundary(x, 0), "12345678901234567890");
+        CHECKS.same("value after many reads", Mail.value(x, 0, 0), head.substring(14));
+        CHECKS.same("content after many reads", Mail.content(x, 1), "x".repeat(150));
     }
 }

@@ -66,6 +66,8 @@ final class PartsTest {
         body("--q\n\na\n--Q\nb", "[a\n--Q\nb]");
         body("--q\n\na\n --q\nb", "[a\n --q\nb]");
         body("--q\n\na\n-q\nb", "[a\n-q\nb]");
+        body("--q\n\na\nxxq\nb", "[a\nxxq\nb]");
+        body("--q\n\na\n-xq\nb", "[a\n-xq\nb]");
         body("--q\n\na\n--\nb", "[a\n--\nb]");
         body("--q\n\na\n---q\nb", "[a\n---q\nb]");
         body("--q\n\na\n--q\r\r\nb", "[a\n--q\r\r\nb]");
@@ -90,6 +92,9 @@ final class PartsTest {
         CHECKS.same("depths", x.look(0, Mail.DEPTH) + "" + x.look(1, Mail.DEPTH) + x.look(2, Mail.DEPTH), "122");
         CHECKS.same("parents", Mail.parents(x), "-1 0 0 ");
         CHECKS.same("parts of a leaf", x.look(1, Mail.PARTS), 0);
+        MailTree open = Mail.read(MULTI + "\n--q\n\nab\n");
+        CHECKS.same("places of a part without an end", Mail.places(open, 1), "41,42,45");
+        CHECKS.same("depth of a part without an end", open.look(1, Mail.DEPTH), 2);
     }
 
     private static void lineEndsBeforeMarks() {

@@ -45,6 +45,7 @@ final class TypesTest {
         multipart("multipart/x;boundary=q(a\\", "q");
         multipart("multipart/x;a=b;c=\"d;boundary=e\";boundary=q", "q");
         multipart("multipart/x;a=\"\";boundary=q", "q");
+        multipart("multipart/x;a=b (c) ;d=\"e\"\t;boundary=q", "q");
         multipart("multipart/x;a=\"(\";boundary=q", "q");
         multipart("multipart/x;boundary=\"a\\\"b\\\\c\\d\"", "a\"b\\cd");
         multipart("multipart/x;boundary=\" (q) ;~\"", " (q) ;~");
@@ -105,6 +106,8 @@ final class TypesTest {
         leaf("multipart/x;(a(b)boundary=q");
         leaf("multipart/x;(a\\)boundary=q");
         leaf("multipart/x;boundary=\u00e9");
+        leaf("multipart/x;boundary=\u007f");
+        leaf("multipart/\u007f;boundary=q");
         leaf("multipart)/x;boundary=q");
         leaf("multi/part;boundary=q");
         leaf("multiparts/x;boundary=q");

@@ -53,6 +53,8 @@ final class WriteTest {
         String head = "Content-Type: message/rfc822\r\n\r\n";
         written("Content-Type:message/rfc822\n\nA:b\n\nx", head + "A: b\r\n\r\nx");
         written("Content-Type:message/rfc822", head + "\r\n");
+        written(head.repeat(3) + "A:b\n\nx", head.repeat(3) + "A: b\r\n\r\nx");
+        written(head.repeat(4) + "A:b\n\nx", head.repeat(4) + "A:b\n\nx");
         written(head + MULTI + "\n--q\n\nx", head + MULTI + "\r\n--q\r\n\r\nx\r\n--q--\r\n");
     }
 
