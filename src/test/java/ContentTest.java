@@ -74,6 +74,7 @@ final class ContentTest {
     private static void blanksAtLineEnds() {
         content("quoted-printable", "a \nb\t\r\nc \t ", "a\nb\r\nc");
         content("quoted-printable", " \n", "\n");
+        content("quoted-printable", "a \r\n", "a\r\n");
         content("quoted-printable", "  ", "");
         content("quoted-printable", " a\tb", " a\tb");
         content("quoted-printable", "a \rb \r", "a \rb \r");
@@ -89,6 +90,8 @@ final class ContentTest {
         content("quoted-printable", "a =\n b", "a  b");
         content("quoted-printable", "a =\n \nb", "a \nb");
         content("quoted-printable", "a=\n", "a");
+        content("quoted-printable", "a=\r\n", "a");
+        content("quoted-printable", "a= \r\n", "a");
         content("quoted-printable", "a=\r", "a=\r");
         content("quoted-printable", "a= \rb", "a= \rb");
         content("quoted-printable", "a=\r\r\n", "a=\r\r\n");
@@ -98,12 +101,14 @@ final class ContentTest {
     }
 
     private static void partsKeepToTheirRanges() {
-        String head = "Content-Type:multipart/x;boundary=q\n\n--q\nContent-Transfer-Encoding:";
-        MailTree x = Mail.read(head + "quoted-printable\n\na=4\n--q\nContent-Transfer-Encoding:base64\n\nQU\n--q\n\nJD");
+        String delimiter = "\n--q\nContent-Transfer-Encoding:";
+        String head = "Content-Type:multipart/x;boundary=q\n" + delimiter;
+        MailTree x = Mail.read(head + "quoted-printable\n\na=4" + delimiter + "base64\n\nQU\n--q\n\nJD");
         CHECKS.same("quoted-printable cut off", Mail.content(x, 1), "a=4");
         CHECKS.same("base64 cut off", Mail.content(x, 2), "A");
         CHECKS.same("as it is", Mail.content(x, 3), "JD");
-        MailTree y = Mail.read(head + "quoted-printable\n\na =\n--q\nContent-Transfer-Encoding:quoted-printable\n\nb \r\r\n--q--");
+        MailTree y = Mail.read(head + "quoted-printable\n\na =" + delimiter
+                + "quoted-printable\n\nb \r\r\n--q--");
         CHECKS.same("= before the body's end", Mail.content(y, 1), "a =");
         CHECKS.same("a CR before the body's end", Mail.content(y, 2), "b \r");
         MailTree z = Mail.read(head + "quoted-printable\n\na=4\n1\n--q--");

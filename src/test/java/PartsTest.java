@@ -84,7 +84,8 @@ final class PartsTest {
     }
 
     private static void placesOfParts() {
-        MailTree x = Mail.read("Content-Type:multipart/x;boundary=q\r\n\r\npre\r\n--q\r\nA:b\r\n\r\nxy\r\n--q\r\nC:d\r\n--q--\r\n");
+        MailTree x = Mail.read("Content-Type:multipart/x;boundary=q\r\n\r\npre\r\n"
+                + "--q\r\nA:b\r\n\r\nxy\r\n--q\r\nC:d\r\n--q--\r\n");
         CHECKS.same("places of the whole", Mail.places(x, 0), "0,39,77");
         CHECKS.same("places of the first part", Mail.places(x, 1), "49,56,58");
         CHECKS.same("places of the second part", Mail.places(x, 2), "65,68,68");
@@ -123,8 +124,10 @@ final class PartsTest {
         MailTree x = Mail.read(MULTI + "\n--q\nContent-Type:multipart/y;boundary=r\n\n--r\n\na\n--r\n" + ENCLOSING
                 + "\n\nb\n--q\n\nc\n--r\n\nd\n--q--\n--r\n");
         CHECKS.same("parents", Mail.parents(x), "-1 0 1 1 3 0 ");
-        CHECKS.same("kinds", "" + x.look(0, 0) + x.look(1, 0) + x.look(2, 0) + x.look(3, 0) + x.look(4, 0) + x.look(5, 0),
-                "110200");
+        int[] kinds = {1, 1, 0, 2, 0, 0};
+        for (int e = 0; e < kinds.length; e++) {
+            CHECKS.same("kind of " + e, x.look(e, Mail.KIND), kinds[e]);
+        }
         CHECKS.same("first", Mail.content(x, 2), "a");
         CHECKS.same("second", Mail.content(x, 4), "b");
         CHECKS.same("third", Mail.content(x, 5), "c\n--r\n\nd");
@@ -143,7 +146,8 @@ final class PartsTest {
         CHECKS.same("depth of the last", x.look(3, Mail.DEPTH), 4);
         CHECKS.same("kind at depth 4", x.look(3, Mail.KIND), 0);
         CHECKS.same("content at depth 4", Mail.content(x, 3), ENCLOSING + "\nend");
-        MailTree y = Mail.read((ENCLOSING + "\n").repeat(3) + MULTI + "Content-Transfer-Encoding:base64\n\n--q\n\nQUJD\n");
+        MailTree y = Mail.read((ENCLOSING + "\n").repeat(3) + MULTI
+                + "Content-Transfer-Encoding:base64\n\n--q\n\nQUJD\n");
         CHECKS.same("kind of a multipart at depth 4", y.look(3, Mail.KIND), 0);
         CHECKS.same("boundary of a multipart at depth 4", y.boundary(3, 0), -1);
         CHECKS.same("parts of a multipart at depth 4", y.look(3, Mail.PARTS), 0);
@@ -158,7 +162,8 @@ final class PartsTest {
         CHECKS.same("parts of twenty", x.look(0, Mail.PARTS), 15);
         CHECKS.same("the last part", Mail.content(x, 15), "ab");
         CHECKS.noElement("a seventeenth entity", () -> x.look(16, 0));
-        MailTree inner = Mail.read(MULTI + "\n--q\nContent-Type:multipart/x;boundary=r\n\n" + "--r\n".repeat(20) + "--q\n\nz");
+        MailTree inner = Mail.read(MULTI + "\n--q\nContent-Type:multipart/x;boundary=r\n\n"
+                + "--r\n".repeat(20) + "--q\n\nz");
         CHECKS.same("inner parts come first", inner.entities(), 16);
         CHECKS.same("the outer one has one", inner.look(0, Mail.PARTS), 1);
         CHECKS.same("the inner one has the rest", inner.look(1, Mail.PARTS), 14);

@@ -69,7 +69,8 @@ final class TypesTest {
 
     private static void boundsOfBoundaries() {
         multipart("multipart/x;boundary=12345678901234567890", "12345678901234567890");
-        multipart("multipart/x;boundary=\"\\1\\2\\3\\4\\5\\6\\7\\8\\9\\0\\1\\2\\3\\4\\5\\6\\7\\8\\9\\0\"", "12345678901234567890");
+        multipart("multipart/x;boundary=\"" + "\\q".repeat(20) + "\"", "q".repeat(20));
+        leaf("multipart/x;boundary=\"" + "\\q".repeat(21) + "\"");
         leaf("multipart/x;boundary=123456789012345678901");
         leaf("multipart/x;boundary=\"\"");
         leaf("multipart/x;boundary=\" \"");
@@ -84,6 +85,11 @@ final class TypesTest {
     private static void noMultiparts() {
         leaf("");
         leaf("multipart");
+        leaf("multipart;boundary=q");
+        leaf(";boundary=q");
+        leaf("multiparx/x;boundary=q");
+        leaf("nultipart/x;boundary=q");
+        leaf("multipart/x;boundarz=q");
         leaf("multipart/");
         leaf("multipart/;boundary=q");
         leaf("/x;boundary=q");
@@ -131,6 +137,8 @@ final class TypesTest {
             CHECKS.same("content of the part of " + type, Mail.content(x, 1), "x");
         }
         leaf("message/rfc8222");
+        leaf("message/rfc823");
+        leaf("messagf/rfc822");
         leaf("message/partial");
         leaf("text/rfc822");
         leaf("multipart/rfc822");
@@ -160,6 +168,9 @@ final class TypesTest {
         encoding("\"base64\"", 0);
         encoding("base 64", 0);
         encoding("base6", 0);
+        encoding("base65", 0);
+        encoding("case64", 0);
+        encoding("quoted_printable", 0);
         encoding("base644", 0);
         encoding("quoted-printable/", 0);
         CHECKS.same("a multipart has an encoding", Mail.read("Content-Type:multipart/x;boundary=q\n"
@@ -171,8 +182,10 @@ final class TypesTest {
         CHECKS.same("second Content-Type", Mail.read("Content-Type:;\nContent-Type:" + multi).look(0, Mail.KIND), 0);
         CHECKS.same("name in capitals", Mail.read("A:b\nCONTENT-TYPE:" + multi).look(0, Mail.KIND), 1);
         CHECKS.same("name too long", Mail.read("Content-Types:" + multi).look(0, Mail.KIND), 0);
+        CHECKS.same("name not the same", Mail.read("Content-Typo:" + multi).look(0, Mail.KIND), 0);
         CHECKS.same("name too short", Mail.read("ontent-Type:" + multi).look(0, Mail.KIND), 0);
-        CHECKS.same("ninth field", Mail.read("a:\nb:\nc:\nd:\ne:\nf:\ng:\nh:\nContent-Type:" + multi).look(0, Mail.KIND), 0);
+        CHECKS.same("eighth field", Mail.read("a:\n".repeat(7) + "Content-Type:" + multi).look(0, Mail.KIND), 1);
+        CHECKS.same("ninth field", Mail.read("a:\n".repeat(8) + "Content-Type:" + multi).look(0, Mail.KIND), 0);
         CHECKS.same("second encoding", Mail.read("Content-Transfer-Encoding:?\ncontent-transfer-encoding:base64\n")
                 .look(0, Mail.ENCODING), 0);
         CHECKS.same("encoding's name in capitals", Mail.read("CONTENT-TRANSFER-ENCODING:base64\n")

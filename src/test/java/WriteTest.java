@@ -35,7 +35,7 @@ final class WriteTest {
         written("a:b\nC :d\n", "a: b\r\n\r\nC :d\n");
         written("A:\t\n\nx\n", "A: \r\n\r\nx\n");
         written("A: b \n\tc \n", "A: b \tc\r\n\r\n");
-        written("a:\nb:\nc:\nd:\ne:\nf:\ng:\nh:\ni:\n", "a: \r\nb: \r\nc: \r\nd: \r\ne: \r\nf: \r\ng: \r\nh: \r\n\r\ni:\n");
+        written("a:\n".repeat(9), "a: \r\n".repeat(8) + "\r\na:\n");
     }
 
     private static void multiparts() {
@@ -46,7 +46,8 @@ final class WriteTest {
                 MULTI + "Content-Transfer-Encoding: base64\r\n\r\n--q\r\n\r\nx\r\n--q--\r\n");
         String inner = "Content-Type: multipart/y; boundary=\"r s\"\r\n";
         written(MULTI + "\n--q\n" + inner + "\n--r s\n\na\n--r s\n\nb\n--q\n\nc",
-                MULTI + "\r\n--q\r\n" + inner + "\r\n--r s\r\n\r\na\r\n--r s\r\n\r\nb\r\n--r s--\r\n\r\n--q\r\n\r\nc\r\n--q--\r\n");
+                MULTI + "\r\n--q\r\n" + inner + "\r\n--r s\r\n\r\na\r\n--r s\r\n\r\nb\r\n--r s--\r\n"
+                + "\r\n--q\r\n\r\nc\r\n--q--\r\n");
     }
 
     private static void enclosing() {
