@@ -15,7 +15,7 @@ final class Checks {
         made++;
         if (!Objects.equals(got, want)) {
             wrong++;
-            System.out.println(what + ": answered " + shown(got) + ", due is " + shown(want));
+            System.out.println(shown(what) + ": answered " + shown(got) + ", due is " + shown(want));
         }
     }
 
