@@ -10,12 +10,19 @@ final class Checks {
 
     private int wrong = 0;
     private int made = 0;
+    private String sentence = "";
+
+    /** Tells which sentence of the document the checks behind this call are about. */
+    void of(String words) {
+        sentence = words;
+    }
 
     void same(String what, Object got, Object want) {
         made++;
         if (!Objects.equals(got, want)) {
             wrong++;
-            System.out.println(shown(what) + ": answered " + shown(got) + ", due is " + shown(want));
+            System.out.println(shown(what) + ": answered " + shown(got) + ", due is " + shown(want)
+                    + (sentence.isEmpty() ? "" : " by: " + sentence));
         }
     }
 
