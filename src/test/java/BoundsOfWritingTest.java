@@ -21,6 +21,7 @@ final class BoundsOfWritingTest {
         base64Lines();
         quotedBytes();
         quotedLineEnds();
+        quotedContentsApart();
         quotedBlanks();
         quotedDashes();
         quotedDashesBehindBreaks();
@@ -199,6 +200,23 @@ final class BoundsOfWritingTest {
         quoted("a\r", "a=0D");
         quoted("a\n", "a=0A");
         quoted("a=0D=\n=0Ab", "a\r\nb");
+    }
+
+    /** Two parts in quoted-printable, the second one behind the first one. */
+    private static void quotedParts(String first, String second, String firstDue, String secondDue) {
+        String part = "--q\r\n" + QUOTED;
+        written(MULTI + part + first + "\r\n" + part + second + "\r\n--q--\r\n",
+                MULTI + part + firstDue + "\r\n" + part + secondDue + "\r\n--q--\r\n");
+    }
+
+    private static void quotedContentsApart() {
+        CHECKS.of("CR LF as it is; ..; a blank too, if something else than CR LF comes behind it");
+        quotedParts("a=0D", "=0Ab", "a=0D", "=0Ab");
+        quotedParts("a=20=0D", "=0Ab", "a =0D", "=0Ab");
+        quotedParts("a=20", "=0D=0Ab", "a=20", "\r\nb");
+        quotedParts("a=20", "b", "a=20", "b");
+        quotedParts("a", "-", "a", "=2D");
+        quotedParts("a".repeat(30), "b", "a".repeat(30), "b");
     }
 
     private static void quotedBlanks() {
