@@ -24,6 +24,7 @@ final class BoundsOfCallsTest {
         clearKeepsWhatWasRead();
         readTellsHowMany();
         readsOneBehindAnother();
+        readsNoFieldOfTheMessageBefore();
         entitiesTellsWhatWasRead();
         lookAtTheWhole();
         lookAtNoEntity();
@@ -181,6 +182,18 @@ final class BoundsOfCallsTest {
                 CHECKS.same("written of " + message + " behind " + before, Mail.written(x), Mail.written(alone));
             }
         }
+    }
+
+    /** Where the first message has its second field's name and value, the second one has the same words. */
+    private static void readsNoFieldOfTheMessageBefore() {
+        CHECKS.of("Reads the message");
+        MailTree x = Mail.read("A:" + "\r\n ".repeat(8) + "\r\nContent-Type:message/rfc822\n");
+        CHECKS.same("kind of the first message", x.look(0, Mail.KIND), 2);
+        x.clear();
+        Mail.feed(x, "A:12345678message/rfc822\n\n..Content-Type:");
+        CHECKS.same("entities of the second message", x.read(), 1);
+        CHECKS.same("kind of the second message", x.look(0, Mail.KIND), 0);
+        CHECKS.same("fields of the second message", Mail.fields(x, 0), "A=12345678message/rfc822;");
     }
 
     private static void entitiesTellsWhatWasRead() {
